@@ -8,6 +8,7 @@ public final class LateTest {
         refused();
         nothingInTheWay();
         theLastStayGoesOn();
+        theLastStayIsLookedAt();
         othersMove();
         inOrderOfIn();
         backWhereItWas();
@@ -86,6 +87,31 @@ public final class LateTest {
         CHECK.due("19: the first stay", d.stay(0, 0, 2), 155);
         CHECK.due("19: the last stay", d.stay(0, 1, 2), 250);
         CHECK.stays(d, 1, 0, 180, 300);
+    }
+
+    private static void theLastStayIsLookedAt() {
+        ApronDesk d = new ApronDesk();
+        d.stand(1, 50);
+        d.stand(1, 50);
+        d.stand(1, 50);
+        d.visit(1, 50, 100, 200, 0);
+        d.visit(1, 50, 210, 300, 0);
+        d.visit(1, 50, 210, 300, 0);
+        d.put(0, 2);
+        d.tow(0, 150, 1);
+        d.put(1, 1);
+        d.put(2, 2);
+        d.cone(2, 230, 240);
+        CHECK.done("19: late(0, 250)", d.late(0, 250), d, 1);
+        changed(d, 1);
+        CHECK.stays(d, 1, 0, 210, 300);
+        CHECK.stays(d, 2, 2, 210, 300);
+        CHECK.due("19: the last stay", d.stay(0, 1, 2), 250);
+        d.cone(1, 255, 256);
+        CHECK.refused("19: late(0, 260)", d.late(0, 260), d, 9);
+        CHECK.because("19: late(0, 260)", d, 4, 1);
+        CHECK.due("19: the last stay is let be", d.stay(0, 1, 2), 250);
+        CHECK.due("19: none is away", d.why(1, 2), 4);
     }
 
     private static void othersMove() {

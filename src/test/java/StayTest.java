@@ -229,9 +229,24 @@ public final class StayTest {
         d.put(3, 1);
         CHECK.hindered("23: taken by another", d.swap(2, 1), d, 5, 3);
         CHECK.hindered("23: the second is taken", d.swap(1, 2), d, 5, 0);
+        CHECK.hindered("23: each with its own span", d.swap(0, 3), d, 1, NONE);
+        CHECK.hindered("23: a CONE at one's own time", swapWithCone(), coneDesk, 4, 0);
         CHECK.stays(d, 1, 1, 100, 200);
         CHECK.stays(d, 2, 0, 200, 300);
         CHECK.due("23: none is away any more", d.why(3, 0), 5);
+    }
+
+    private static ApronDesk coneDesk;
+
+    /** The cone is there while the first one is, but not while the second one is. */
+    private static boolean swapWithCone() {
+        coneDesk = deskWithStands(2);
+        coneDesk.visit(1, 50, 100, 120, 0);
+        coneDesk.visit(1, 50, 200, 220, 0);
+        coneDesk.put(0, 0);
+        coneDesk.put(1, 1);
+        coneDesk.cone(1, 110, 115);
+        return coneDesk.swap(0, 1);
     }
 
     private static void neighbourAfterTheFirstIsThere() {
@@ -298,6 +313,7 @@ public final class StayTest {
         CHECK.due("26: at(0, 200, 0)", d.at(0, 200, 0), 1);
         CHECK.due("26: at(0, 250, 0)", d.at(0, 250, 0), NONE);
         d.cone(0, 160, 300);
+        CHECK.due("26: the minute ahead of the cone", d.at(0, 159, 2), NONE);
         CHECK.due("26: a visit ahead of a cone", d.at(0, 160, 1), 1);
         CHECK.due("26: no third, but a cone", d.at(0, 160, 2), -2);
         CHECK.due("26: a cone alone", d.at(0, 299, 0), -2);
@@ -348,6 +364,10 @@ public final class StayTest {
         free(d, 200, 70, new int[] {1, NONE});
         free(d, 180, 50, new int[] {0, 1, 2, NONE});
         free(d, 119, 50, new int[] {1, 2, 3, NONE});
+        free(d, 99, 50, new int[] {0, 1, 2, 3, NONE});
+        free(d, 100, 50, new int[] {1, 2, 3, NONE});
+        free(d, 149, 60, new int[] {0, 2, 3, NONE});
+        free(d, 150, 60, new int[] {0, NONE});
         CHECK.due("27: a TWIN that one has, above HALF", d.crowd(199, 51, 1), NONE);
         CHECK.due("27: a TWIN when it has gone", d.crowd(200, 51, 1), 1);
         CHECK.due("27: too wide for all but one", d.crowd(120, 101, 0), 3);
@@ -360,6 +380,9 @@ public final class StayTest {
         CHECK.due("27: wing 201", d.crowd(0, 201, 0), NONE);
         CHECK.due("27: k -1", d.crowd(0, 10, -1), NONE);
         CHECK.due("27: far off", d.crowd(GREATEST, LEAST, LEAST), NONE);
+        d.visit(3, 50, 300, 400, 2);
+        d.why(2, 1);
+        free(d, 300, 80, new int[] {1, 2, 3, NONE});
         d.why(1, 0);
         d.stand(0, 0);
         d.crowd(199, 51, 0);
