@@ -1,3 +1,6 @@
+import java.util.function.Supplier;
+import java.util.function.ToIntFunction;
+
 /** Counts the answers of one test and tells those that are not as due. */
 final class Check {
     private int asked;
@@ -59,6 +62,42 @@ final class Check {
         due(name + ": stand", desk.stay(visit, 0, 0), stand);
         due(name + ": from", desk.stay(visit, 0, 1), from);
         due(name + ": end", desk.stay(visit, 0, 2), end);
+    }
+
+    void same(String name, String got, String want) {
+        asked++;
+        if (!got.equals(want)) {
+            wrong++;
+            System.out.println(name + ":\n  seen " + got + "\n  due  " + want);
+        }
+    }
+
+    /** For a call that is refused: its answer, its STATUS, and that it changes nothing else. */
+    void refusal(String name, int status, Supplier<ApronDesk> scene, ToIntFunction<ApronDesk> call) {
+        ApronDesk tried = scene.get();
+        refused(name, call.applyAsInt(tried), tried, status);
+        same(name + " changes nothing else", View.of(tried), View.of(scene.get()));
+    }
+
+    /** As refusal(), for STATUS 8 and 9, which tell a REASON and AGAINST. */
+    void hindrance(String name, int status, int reason, int by, Supplier<ApronDesk> scene,
+            ToIntFunction<ApronDesk> call) {
+        ApronDesk tried = scene.get();
+        refused(name, call.applyAsInt(tried), tried, status);
+        because(name, tried, reason, by);
+        same(name + " changes nothing else", View.besidesReason(tried), View.besidesReason(scene.get()));
+    }
+
+    /** The numbers from least to most can be, those beside them and far off are refused. */
+    void range(String name, int least, int most, int status, Supplier<ApronDesk> scene, Edge.Call call) {
+        for (int x : Edge.inside(least, most)) {
+            ApronDesk desk = scene.get();
+            due(name + ": " + x + " is refused", call.on(desk, x) == ApronDesk.NONE, false);
+            due("status() behind " + name + ": " + x, desk.status(), 0);
+        }
+        for (int x : Edge.outside(least, most)) {
+            refusal(name + ": " + x, status, scene, desk -> call.on(desk, x));
+        }
     }
 
     void end() {
