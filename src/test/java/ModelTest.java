@@ -1,10 +1,4 @@
-import java.lang.reflect.Method;
-import java.lang.reflect.Modifier;
-import java.util.ArrayList;
 import java.util.Arrays;
-import java.util.HashMap;
-import java.util.List;
-import java.util.Map;
 import java.util.Random;
 
 /**
@@ -21,41 +15,31 @@ public final class ModelTest {
     };
 
     private final Random random;
-    private final ApronDesk desk = new ApronDesk();
-    private final DeskModel model = new DeskModel();
-    private final List<String> log = new ArrayList<>();
-    private final Map<String, Method> ofDesk;
-    private final Map<String, Method> ofModel;
+    private final Both both = new Both();
     private final int[] statuses;
     private final int spread;
     private final int hostile;
     private int stands;
     private int visits;
     private int now;
-    private int calls;
-    private boolean alike = true;
 
-    private ModelTest(long seed, Map<String, Method> ofDesk, Map<String, Method> ofModel, int[] statuses) {
+    private ModelTest(long seed, int[] statuses) {
         random = new Random(seed);
-        this.ofDesk = ofDesk;
-        this.ofModel = ofModel;
         this.statuses = statuses;
         spread = new int[] {60, 300, 2_880}[random.nextInt(3)];
         hostile = seed % 10 == 0 ? 4 : 200;
     }
 
     public static void main(String[] args) throws Exception {
-        Map<String, Method> ofDesk = methodsOf(ApronDesk.class);
-        Map<String, Method> ofModel = methodsOf(DeskModel.class);
         int[] statuses = new int[12];
         int told = 0;
         for (int seed = 0; seed < RUNS && told < MOST_TOLD; seed++) {
-            ModelTest run = new ModelTest(seed, ofDesk, ofModel, statuses);
+            ModelTest run = new ModelTest(seed, statuses);
             run.go();
-            if (!run.alike) {
+            if (!run.both.areAlike()) {
                 told++;
                 System.out.println("seed " + seed + ":");
-                run.log.forEach(System.out::println);
+                run.both.tellAll();
             }
         }
         System.out.println("how often each STATUS came: " + Arrays.toString(statuses));
@@ -65,23 +49,13 @@ public final class ModelTest {
         }
     }
 
-    private static Map<String, Method> methodsOf(Class<?> type) {
-        Map<String, Method> map = new HashMap<>();
-        for (Method m : type.getDeclaredMethods()) {
-            if (Modifier.isPublic(m.getModifiers())) {
-                map.put(m.getName(), m);
-            }
-        }
-        return map;
-    }
-
     private void go() throws Exception {
         switch (random.nextInt(6)) {
             case 0 -> tellAsMuchAsThereMayBe();
             case 1 -> searchALot();
             default -> tellStands(1 + random.nextInt(7));
         }
-        while (calls < CALLS - 16 && alike) {
+        while (both.calls() < CALLS - 16 && both.areAlike()) {
             drawCall();
             lookAtStatus();
             compareOne();
@@ -133,16 +107,8 @@ public final class ModelTest {
         }
     }
 
-    private Object call(String name, Integer... args) throws Exception {
-        calls++;
-        Object got = ofDesk.get(name).invoke(desk, (Object[]) args);
-        Object want = ofModel.get(name).invoke(model, (Object[]) args);
-        log.add(name + Arrays.toString(args) + " answered " + got);
-        if (!got.equals(want)) {
-            alike = false;
-            log.add("  but due is " + want);
-        }
-        return got;
+    private Object call(String name, Integer... args) throws ReflectiveOperationException {
+        return both.call(name, args);
     }
 
     private int odd(int usual) {
