@@ -349,6 +349,9 @@ public final class EdgeLateTest {
         CHECK.due("20: 1 alone", back.changed(0), 1);
         CHECK.due("20: not 0", back.changed(1), NONE);
         CHECK.stays(back, 0, 0, 200, 220);
+        CHECK.stays(back, 1, 1, 200, 260);
+        CHECK.stays(back, 2, 0, 230, 260);
+        CHECK.stays(back, 3, 0, 100, 300);
     }
 
     /** Visit 0 goes because of 1, which then goes because of 2: so 0 can be back. */

@@ -11,7 +11,6 @@ public final class LateTest {
         theLastStayIsLookedAt();
         othersMove();
         inOrderOfIn();
-        backWhereItWas();
         neighboursMove();
         coneCannotGo();
         needCannotGo();
@@ -173,27 +172,6 @@ public final class LateTest {
         changed(d, 1, 0);
         CHECK.stays(d, 1, 1, 205, 300);
         CHECK.stays(d, 0, NONE, 0, 0);
-    }
-
-    /** Visit 0 goes because of 1, which then goes because of 2: so 0 can be back, and isn't CHANGED. */
-    private static void backWhereItWas() {
-        ApronDesk d = new ApronDesk();
-        d.stand(3, 100);
-        d.stand(1, 60);
-        d.visit(1, 40, 200, 220, 0);
-        d.visit(1, 40, 200, 260, 0);
-        d.visit(1, 40, 230, 260, 0);
-        d.visit(1, 40, 100, 150, 0);
-        d.put(0, 0);
-        d.put(1, 0);
-        d.put(2, 0);
-        d.put(3, 0);
-        CHECK.done("19: late(3, 300)", d.late(3, 300), d, 1);
-        changed(d, 1);
-        CHECK.stays(d, 0, 0, 200, 220);
-        CHECK.stays(d, 1, 1, 200, 260);
-        CHECK.stays(d, 2, 0, 230, 260);
-        CHECK.stays(d, 3, 0, 100, 300);
     }
 
     private static void neighboursMove() {
