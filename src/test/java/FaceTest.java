@@ -40,6 +40,7 @@ public final class FaceTest {
         theFields();
         theClassesInside();
         theText();
+        methodsAreShort();
         theRoom();
         callsMakeNothing();
         CHECK.end();
@@ -88,6 +89,8 @@ public final class FaceTest {
             CHECK.due(f + " is private", Modifier.isPrivate(f.getModifiers()), !isNone);
             boolean isStatic = Modifier.isStatic(f.getModifiers());
             CHECK.due(f + " is fixed", !isStatic || Modifier.isFinal(f.getModifiers()), true);
+            boolean isNumber = f.getType() == int.class || f.getType() == int[].class;
+            CHECK.due(f + " is a constant of numbers", !isStatic || isNumber, true);
         }
         CHECK.due("NONE", ApronDesk.class.getField("NONE").getInt(null), -1);
     }
@@ -100,7 +103,8 @@ public final class FaceTest {
             CHECK.due(c + " is private", Modifier.isPrivate(c.getModifiers()), true);
             int fields = 0;
             for (Field f : c.getDeclaredFields()) {
-                fields += Modifier.isStatic(f.getModifiers()) ? 0 : 1;
+                CHECK.due(f + " is of the object", Modifier.isStatic(f.getModifiers()), false);
+                fields++;
             }
             CHECK.due(c + " has few fields", fields <= 20, true);
         }
@@ -124,6 +128,19 @@ public final class FaceTest {
             boolean inConstructor = line.trim().matches("\\w+ = new \\w+\\([\\w, ]*\\);");
             CHECK.due("made outside of constructors: " + line, inField || inConstructor, true);
         }
+    }
+
+    /** LANGUAGE.md 11: some sixty lines. A method ends with the brace below its first word. */
+    private static void methodsAreShort() throws Exception {
+        String text = Files.readString(Path.of(System.getProperty("apron.source")));
+        Matcher method = Pattern.compile("(?ms)^( +)(public|private)[^=;{}]*\\) \\{\n.*?^\\1\\}").matcher(text);
+        int methods = 0;
+        while (method.find()) {
+            methods++;
+            long lines = method.group().lines().count();
+            CHECK.due("short: " + method.group().lines().findFirst().get(), lines <= 60, true);
+        }
+        CHECK.due("methods are found", methods >= FACE.length, true);
     }
 
     /** Some 2,000 elements a desk: thousands of desks have room. */
